@@ -1,0 +1,58 @@
+import java.util.Arrays;
+
+/** What can be seen of an object without changing it. */
+final class Look {
+    private Look() {
+    }
+
+    /** An object that has loaded this story. */
+    static PageMarriages story(String text) {
+        PageMarriages m = new PageMarriages();
+        type(m, text);
+        m.load();
+        return m;
+    }
+
+    static void type(PageMarriages m, String text) {
+        m.clearText();
+        for (int i = 0; i < text.length(); i++) {
+            m.append(text.charAt(i));
+        }
+    }
+
+    static int[] at(PageMarriages m) {
+        int[] seen = new int[11 + 4 * (16 * 4 + 4 * 5)];
+        int n = 0;
+        for (int what = 0; what <= 10; what++) {
+            seen[n++] = m.about(what);
+        }
+        for (int p = 0; p < 4; p++) {
+            if ((m.about(0) >> p & 1) == 0) {
+                continue;
+            }
+            for (int i = 0; i < 64; i++) {
+                seen[n++] = m.page(p, i / 4, i % 4);
+            }
+            for (int i = 0; i < 20; i++) {
+                seen[n++] = m.group(p, i / 5, i % 5);
+            }
+        }
+        return seen;
+    }
+
+    static void same(int[] due, PageMarriages m) {
+        int[] got = at(m);
+        if (!Arrays.equals(due, got)) {
+            throw new AssertionError("the state is " + Arrays.toString(got)
+                + ", due is " + Arrays.toString(due));
+        }
+    }
+
+    static void unchangedBy(PageMarriages m, Tally.Body body) {
+        int[] before = at(m);
+        int error = m.errorPosition();
+        body.run();
+        same(before, m);
+        Tally.is("errorPosition()", error, m.errorPosition());
+    }
+}
