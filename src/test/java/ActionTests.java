@@ -7,6 +7,7 @@ final class ActionTests {
         t.test("10 write: faults take single frames", ActionTests::writeFaults);
         t.test("10 write: single frames avoid free runs", ActionTests::writeAvoidsRuns);
         t.test("10 write: eager faults", ActionTests::writeEager);
+        t.test("10 write: a big group begins with the values 0", ActionTests::writeEagerZeros);
         t.test("10 write: eager memory without a free run", ActionTests::writeEagerWithoutRun);
         t.test("10 write: copies and tears", ActionTests::writeCopies);
         t.test("10 write refuses", ActionTests::writeRefuses);
@@ -96,6 +97,16 @@ final class ActionTests {
         m.write(0, 8, 1);
         Tally.is(2, m.page(0, 8, 0));
         Tally.is(0, m.group(0, 2, 1));
+    }
+
+    private static void writeEagerZeros() {
+        PageMarriages m = Look.story("Mf0w00009w00109w00209w00309x0e");
+        Tally.is(8, m.about(2));
+        Tally.is(1, m.write(1, 5, 3));
+        Tally.is("the run of the process 0", 0, m.group(1, 1, 4));
+        for (int v = 4; v < 8; v++) {
+            Tally.is(v == 5 ? 3 : 0, m.page(1, v, 1));
+        }
     }
 
     private static void writeEagerWithoutRun() {
@@ -254,6 +265,12 @@ final class ActionTests {
         m.write(0, 0, 5);
         Tally.is("the other three are shared still", 1, m.exit(1));
         Tally.is(28, m.about(1));
+        for (int g = 0; g < 4; g++) {
+            PageMarriages big = Look.story("Mef0");
+            big.write(0, 4 * g, 1);
+            Tally.is(4, big.exit(0));
+            Tally.is(0, big.about(3));
+        }
     }
 
     private static void exitRefuses() {
@@ -327,9 +344,7 @@ final class ActionTests {
         m.marry(0, 0);
         Look.unchangedBy(m, () -> Tally.illegalState(() -> m.marry(0, 0)));
         PageMarriages full = Look.story("Mf0w00101w00001");
-        for (int i = 2; i < 32; i++) {
-            full.write(i / 16, i % 16, 1);
-        }
+        Look.fill(full, 2, 32);
         Tally.is(0, full.about(1));
         Look.unchangedBy(full, () -> Tally.illegalState(() -> full.marry(0, 0)));
         Tally.is(0, full.marry(0, 1));
@@ -426,6 +441,14 @@ final class ActionTests {
         Tally.is(26, m.press(32));
         Tally.is(4, m.about(8));
         Tally.is(10, m.about(9));
+        for (int v = 0; v < 4; v++) {
+            PageMarriages lone = Look.story("Mef0f0f0");
+            for (int i = 0; i < 4; i++) {
+                lone.write(3, 12 + i, i == v ? 0 : 1);
+            }
+            Tally.is("one page with the value 0 is enough", 29, lone.press(32));
+            Tally.is(-1, lone.page(3, 12 + v, 0));
+        }
         PageMarriages two = Look.story("Mef0w11201w00401w00501");
         two.press(25);
         Tally.is("more zeros count more than the lower process", 0, two.group(1, 3, 1));

@@ -20,6 +20,13 @@ final class Look {
         }
     }
 
+    /** Writes 1 to pages: the numbers 0 to 15 are those of the process 0, 16 to 31 of the other. */
+    static void fill(PageMarriages m, int from, int to) {
+        for (int i = from; i < to; i++) {
+            m.write(i / 16, i % 16, 1);
+        }
+    }
+
     static int[] at(PageMarriages m) {
         int[] seen = new int[11 + 4 * (16 * 4 + 4 * 5)];
         int n = 0;

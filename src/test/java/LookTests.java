@@ -147,6 +147,11 @@ final class LookTests {
         Tally.is(303, m.user(1, 1));
         Tally.is(-1, m.user(1, 2));
         Tally.is(3, m.user(2, 0));
+        m.write(3, 0, 1);
+        Tally.is(300, m.user(3, 0));
+        m.fork(3);
+        Tally.is(100, m.user(3, 0));
+        Tally.is(300, m.user(3, 1));
     }
 
     private static void userRefuses() {

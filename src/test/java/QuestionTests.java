@@ -8,6 +8,7 @@ final class QuestionTests {
         t.test("18 whyNot tells the first reason", QuestionTests::firstReasons);
         t.test("18 whyNot refuses", QuestionTests::whyNotRefuses);
         t.test("19 wouldDo", QuestionTests::wouldDos);
+        t.test("19 wouldDo when frames are rare", QuestionTests::wouldDoWithoutFrames);
         t.test("19 wouldDo refuses", QuestionTests::wouldDoRefuses);
         t.test("20 marriages", QuestionTests::marriages);
         t.test("20 marriages: those in place come first", QuestionTests::marriagesInPlaceFirst);
@@ -30,10 +31,29 @@ final class QuestionTests {
         Tally.is("elsewhere", 0, m.whyNot(1, 0));
         m.marry(1, 0);
         Tally.is("big", 1, m.whyNot(1, 0));
-        PageMarriages full = Look.story("Mf0w00101w00001");
-        for (int i = 2; i < 32; i++) {
-            full.write(i / 16, i % 16, 1);
+        for (int shared = 0; shared < 4; shared++) {
+            PageMarriages one = Look.story("Mw00001w00101w00201w00301f0");
+            for (int v = 0; v < 4; v++) {
+                if (v != shared) {
+                    one.write(1, v, 1);
+                }
+            }
+            Tally.is("one page is shared", 3, one.whyNot(0, 0));
+            Tally.is("one page is shared", 3, one.whyNot(1, 0));
+            one.write(0, shared, 1);
+            Tally.is("none is shared", 0, one.whyNot(1, 0));
         }
+        for (int lacking = 0; lacking < 4; lacking++) {
+            PageMarriages one = new PageMarriages();
+            for (int v = 8; v < 12; v++) {
+                if (v != 8 + lacking) {
+                    one.write(0, v, 1);
+                }
+            }
+            Tally.is("one page has no frame", 2, one.whyNot(0, 2));
+        }
+        PageMarriages full = Look.story("Mf0w00101w00001");
+        Look.fill(full, 2, 32);
         Tally.is("no free run", 4, full.whyNot(0, 0));
         Tally.is("in place", 0, full.whyNot(0, 1));
         full.exit(1);
@@ -46,9 +66,7 @@ final class QuestionTests {
         PageMarriages some = Look.story("Mw00001f0");
         Tally.is("lacking, though shared", 2, some.whyNot(0, 0));
         PageMarriages full = Look.story("Mf0w00101w00001");
-        for (int i = 2; i < 32; i++) {
-            full.write(i / 16, i % 16, 1);
-        }
+        Look.fill(full, 2, 32);
         full.fork(0);
         Tally.is("shared, though there is no run", 3, full.whyNot(0, 0));
         full.write(1, 0, 0);
@@ -81,10 +99,6 @@ final class QuestionTests {
         Tally.is("a frame of a widow of its own", 0, m.wouldDo(1, 0));
         Tally.is("torn", 2, m.wouldDo(0, 1));
         Tally.is("a widow", 3, m.wouldDo(1, 1));
-        for (int i = 0; i < 32 && m.about(1) > 0; i++) {
-            m.write(i / 16, i % 16, 5);
-        }
-        Tally.is("all frames are used", 0, m.about(1));
     }
 
     private static void wouldDoRefuses() {
@@ -94,10 +108,11 @@ final class QuestionTests {
         for (int[] at : missing) {
             Tally.outOfBounds(() -> m.wouldDo(at[0], at[1]));
         }
+    }
+
+    private static void wouldDoWithoutFrames() {
         PageMarriages full = Look.story("Mf0");
-        for (int i = 0; i < 31; i++) {
-            full.write(i / 16, i % 16, 1);
-        }
+        Look.fill(full, 0, 31);
         full.fork(0);
         Tally.is(1, full.wouldDo(1, 15));
         Tally.is(2, full.wouldDo(2, 0));
@@ -130,10 +145,13 @@ final class QuestionTests {
             m.write(1, v, 2);
         }
         Tally.is("a big one of the process 1 was torn by its writes", 7, m.marriages());
-        PageMarriages full = Look.story("Mf0w00101w00001");
-        for (int i = 2; i < 32; i++) {
-            full.write(i / 16, i % 16, 1);
+        PageMarriages late = Look.story("Mf0f0f0");
+        for (int v = 0; v < 16; v++) {
+            late.write(3, v, 1);
         }
+        Tally.is("the process 3", 4, late.marriages());
+        PageMarriages full = Look.story("Mf0w00101w00001");
+        Look.fill(full, 2, 32);
         Tally.is("all but the one that is not in place", 7, full.marriages());
         full.write(1, 0, 0);
         full.press(1);
@@ -146,17 +164,13 @@ final class QuestionTests {
      */
     private static void marriagesInPlaceFirst() {
         PageMarriages m = Look.story("Mf0w00001w00401w00101w00501w00201w00601w00301w00701");
-        for (int i = 8; i < 28; i++) {
-            m.write(i / 16, i % 16, 1);
-        }
+        Look.fill(m, 8, 28);
         Tally.is(1, m.about(2));
         Tally.is("one crosswise, and five in place", 6, m.marriages());
         m.exit(1);
         Tally.is("two crosswise, and two in place", 4, m.marriages());
         PageMarriages one = Look.story("Mf0w00101w00001w00201w00301w00501w00401w00601w00701");
-        for (int i = 8; i < 28; i++) {
-            one.write(i / 16, i % 16, 1);
-        }
+        Look.fill(one, 8, 28);
         Tally.is("the first leaves its run to the second", 7, one.marriages());
     }
 

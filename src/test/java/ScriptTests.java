@@ -40,7 +40,7 @@ final class ScriptTests {
         int[] failing = {10160, 10990, 12000, 14000, 19000, 22000, 24000, 29000, 32000, 39000,
             40000, 40100, 41300, 42000, 40400, 40900, 49000, 50000, 50300, 52000, 51400, 51900,
             59000, 60000, 60033, 60099, 70002, 70041, 70050, 72003, 70160, 70990, 74000, 80301,
-            81300, 82000, 81401, 81400, 84000, 81302, 81309, 90025, 90099};
+            81300, 82000, 81401, 81400, 84000, 81302, 81309, 80302, 80309, 90025, 90099};
         for (int script : failing) {
             Tally.is("script " + script, 0, m.runScript(1, script));
         }
@@ -98,6 +98,7 @@ final class ScriptTests {
         int[] wrong = {0, -1, 4, Integer.MIN_VALUE, Integer.MAX_VALUE};
         for (int n : wrong) {
             Tally.illegalArgument(() -> m.runScript(n, 10000));
+            Tally.illegalArgument(() -> m.runScript(n, 0));
         }
         long[][] scripts = {{1, -1}, {2, -10000}, {3, Long.MIN_VALUE}, {1, 100000},
             {2, 10000000000L}, {3, 1000000000000000L}, {1, Long.MAX_VALUE}, {3, Long.MAX_VALUE},
@@ -112,7 +113,7 @@ final class ScriptTests {
 
     private static void simulates() {
         PageMarriages m = sample();
-        for (int seed = 0; seed < 40; seed++) {
+        for (int seed = 0; seed < 200; seed++) {
             PageMarriages copy = sample();
             int copies = copy.about(6);
             int tears = copy.about(8);
@@ -121,7 +122,7 @@ final class ScriptTests {
                 x = x * 6364136223846793005L + 1442695040888963407L;
                 step(copy, (int) (x >>> 33));
                 int due = 1000 * (copy.about(6) - copies) + copy.about(8) - tears;
-                if (step % 7 == 1 || step > 95) {
+                if (step % 16 == 1 || step > 97) {
                     Tally.is("simulate(" + seed + ", " + step + ")", due, m.simulate(seed, step));
                 }
             }

@@ -169,9 +169,12 @@ final class TextTests {
         Tally.is(1, m.about(10));
         Tally.is(2, m.about(3));
         Tally.is(99, m.page(0, 10, 1));
-        Look.type(m, "Mw00001w00101w00202w00303m00");
+        Look.type(m, "Mw00801w00901w01002w01103m02");
         Tally.is(0, m.load());
-        Tally.is(1, m.group(0, 0, 1));
+        Tally.is(1, m.group(0, 2, 1));
+        Look.type(m, "Mf0f0w20401w20501w20602w20703m21");
+        Tally.is(0, m.load());
+        Tally.is(1, m.group(2, 1, 1));
     }
 
     private static void loadLeavesOut() {
