@@ -192,10 +192,11 @@ final class ActionTests {
         Tally.is("alone in its frame", 0, full.write(1, 15, 9));
         full.exit(2);
         Tally.is(0, full.write(0, 0, 9));
-        full.marry(0, 0);
-        full.fork(0);
-        Look.unchangedBy(full, () -> Tally.illegalState(() -> full.write(2, 0, 9)));
-        Tally.is("not torn either", 1, full.group(2, 0, 1));
+        PageMarriages big = full();
+        big.marry(0, 0);
+        big.fork(0);
+        Look.unchangedBy(big, () -> Tally.illegalState(() -> big.write(2, 0, 9)));
+        Tally.is("not torn either", 1, big.group(2, 0, 1));
         PageMarriages lacking = full();
         lacking.fork(0);
         lacking.exit(1);
@@ -484,36 +485,42 @@ final class ActionTests {
         Tally.is(1, m.about(10));
     }
 
-    private static void undoes() {
+    private static PageMarriages afterActions(int count) {
+        Unchanged.Call[] actions = {m -> m.write(1, 0, 7), m -> m.fork(1), m -> m.exit(0),
+            m -> m.marry(1, 0), m -> m.tear(1, 0), m -> m.press(28), m -> m.setEager(true),
+            m -> m.write(1, 12, 5), m -> m.fork(1), m -> m.write(0, 13, 5), m -> m.press(1),
+            m -> m.setEager(true)};
         PageMarriages m = Look.story("Mw00000w00101w00201w00301w00800f0x0");
-        Tally.Body[] actions = {() -> m.write(1, 0, 7), () -> m.fork(1), () -> m.exit(0),
-            () -> m.marry(1, 0), () -> m.tear(1, 0), () -> m.press(28), () -> m.setEager(true),
-            () -> m.write(1, 12, 5), () -> m.fork(1), () -> m.write(0, 13, 5), () -> m.press(1),
-            () -> m.setEager(true)};
-        int[][] before = new int[actions.length][];
-        for (int i = 0; i < actions.length; i++) {
-            before[i] = Look.at(m);
-            actions[i].run();
+        for (int i = 0; i < count; i++) {
+            actions[i].on(m);
         }
-        for (int i = actions.length - 1; i >= 0; i--) {
-            Tally.is(i, m.undo());
-            Look.same(before[i], m);
+        return m;
+    }
+
+    private static void undoes() {
+        for (int left = 11; left >= 0; left--) {
+            PageMarriages m = afterActions(12);
+            for (int i = 11; i >= left; i--) {
+                Tally.is(i, m.undo());
+            }
+            Look.same(Look.at(afterActions(left)), m);
         }
+        PageMarriages m = afterActions(0);
         Tally.illegalState(() -> m.undo());
-        Look.same(before[0], m);
+        Look.same(Look.at(afterActions(0)), m);
     }
 
     private static void undoLimit() {
         PageMarriages m = new PageMarriages();
         for (int round = 0; round < 3; round++) {
-            int[][] before = new int[20][];
+            int[] before = new int[20];
             for (int i = 0; i < 20; i++) {
-                before[i] = Look.at(m);
+                before[i] = m.page(0, i % 16, 1);
                 m.write(0, i % 16, 20 * round + i);
             }
             for (int i = 13; i >= 0; i--) {
                 Tally.is(i, m.undo());
-                Look.same(before[6 + i], m);
+                Tally.is(before[6 + i], m.page(0, (6 + i) % 16, 1));
             }
             Tally.illegalState(() -> m.undo());
             for (int i = 0; i <= round; i++) {

@@ -27,21 +27,22 @@ final class Look {
         }
     }
 
+    /** What the whole state rests on, in at most 155 calls. */
     static int[] at(PageMarriages m) {
-        int[] seen = new int[11 + 4 * (16 * 4 + 4 * 5)];
-        int n = 0;
+        int[] seen = new int[11 + 4 * (16 * 2 + 4)];
         for (int what = 0; what <= 10; what++) {
-            seen[n++] = m.about(what);
+            seen[what] = m.about(what);
         }
+        int n = 11;
         for (int p = 0; p < 4; p++) {
-            if ((m.about(0) >> p & 1) == 0) {
+            if ((seen[0] >> p & 1) == 0) {
                 continue;
             }
-            for (int i = 0; i < 64; i++) {
-                seen[n++] = m.page(p, i / 4, i % 4);
+            for (int i = 0; i < 32; i++) {
+                seen[n++] = m.page(p, i / 2, i % 2);
             }
-            for (int i = 0; i < 20; i++) {
-                seen[n++] = m.group(p, i / 5, i % 5);
+            for (int g = 0; g < 4; g++) {
+                seen[n++] = m.group(p, g, 1);
             }
         }
         return seen;

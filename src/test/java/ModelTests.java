@@ -43,6 +43,7 @@ final class ModelTests {
         private final PageMarriages tested = new PageMarriages();
         private final PlainModel model = new PlainModel();
         private final StringBuilder log = new StringBuilder();
+        private int done;
 
         Run(Style style, long seed) {
             this.style = style;
@@ -50,27 +51,21 @@ final class ModelTests {
             this.random = new Random(seed);
         }
 
+        /** What an object answers behind its call 512 is free. */
         void go() {
-            int done = 0;
             while (done < CALLS) {
-                done += step();
+                step();
             }
         }
 
-        private int step() {
-            int kind = random.nextInt(100);
-            if (style == Style.TOLD && kind < 70) {
-                return text();
-            }
-            if (kind < 4) {
-                return text();
-            }
-            if (kind < 60) {
+        private void step() {
+            if (random.nextInt(100) < (style == Style.TOLD ? 50 : 4)) {
+                text();
+            } else if (random.nextInt(100) < 58) {
                 act();
             } else {
                 ask();
             }
-            return 1;
         }
 
         private int some(int... values) {
@@ -105,6 +100,10 @@ final class ModelTests {
         }
 
         private void check(String call, Call due, Call got) {
+            if (done == CALLS) {
+                return;
+            }
+            done++;
             String dueAnswer = told(due);
             String gotAnswer = told(got);
             log.append(call).append(" = ").append(dueAnswer).append('\n');
@@ -143,26 +142,22 @@ final class ModelTests {
             }
         }
 
-        private int text() {
-            int calls = 2;
+        private void text() {
             if (random.nextInt(4) > 0) {
                 check("clearText()", model::clearText, tested::clearText);
                 append('M');
-                calls += 2;
             }
             for (int i = random.nextInt(6); i > 0; i--) {
                 String command = command();
                 for (int j = 0; j < command.length(); j++) {
                     boolean slips = random.nextInt(60) == 0;
                     append(slips ? some(-1, 256, 0, 255, ' ', '9', 'M', 'w', '1') : command.charAt(j));
-                    calls++;
                 }
             }
             check("errorPosition()", model::errorPosition, tested::errorPosition);
             if (style == Style.TOLD || random.nextInt(3) == 0) {
                 check("load()", model::load, tested::load);
             }
-            return calls;
         }
 
         private void act() {

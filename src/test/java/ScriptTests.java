@@ -112,8 +112,8 @@ final class ScriptTests {
     }
 
     private static void simulates() {
-        PageMarriages m = sample();
         for (int seed = 0; seed < 200; seed++) {
+            PageMarriages m = sample();
             PageMarriages copy = sample();
             int copies = copy.about(6);
             int tears = copy.about(8);
@@ -126,8 +126,8 @@ final class ScriptTests {
                     Tally.is("simulate(" + seed + ", " + step + ")", due, m.simulate(seed, step));
                 }
             }
+            Look.same(Look.at(sample()), m);
         }
-        Look.same(Look.at(sample()), m);
     }
 
     /** One step of a simulation by the calls that it names. */

@@ -139,9 +139,8 @@ final class TextTests {
             {"Mf", "0123"}, {"Mf0", "wfxme"}, {"Mx", "0123"}, {"Mx3", "wfxme"}, {"Mm", "0123"},
             {"Mm2", "0123"}, {"Mm23", "wfxme"}, {"Me", "wfxme"}};
         for (String[] row : allowed) {
-            PageMarriages m = new PageMarriages();
             for (int c = 0; c < 256; c++) {
-                m.clearText();
+                PageMarriages m = new PageMarriages();
                 Look.type(m, row[0]);
                 m.append(c);
                 boolean refused = m.errorPosition() == row[0].length();
