@@ -31,6 +31,7 @@ public final class AllTests {
         ScriptEdgeTests.run(book);
         SimulateEdgeTests.run(book);
         SlotEdgeTests.run(book);
+        RefusalEdgeTests.run(book);
         book.close();
     }
 }
