@@ -2,7 +2,7 @@ import java.nio.file.Path;
 
 /** Runs the project's tests; its last line tells how many passed and failed. */
 public final class AllTests {
-    /** The arguments are the paths of the class and of the document. */
+    /** The arguments are the paths of the class, of the document and of the README. */
     public static void main(String[] args) {
         Tally tally = new Tally();
         TextTests.run(tally);
@@ -14,6 +14,7 @@ public final class AllTests {
         runEdges(tally, new Document(Path.of(args[1])));
         FaceTests.run(tally);
         SourceTests.run(tally, Path.of(args[0]));
+        ReadmeTests.run(tally, Path.of(args[2]));
         ModelTests.run(tally);
         System.out.println("own: " + tally.passed() + " passed, " + tally.failed() + " failed");
         System.exit(tally.failed() == 0 ? 0 : 1);
