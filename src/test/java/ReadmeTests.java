@@ -15,13 +15,15 @@ import java.util.List;
 import java.util.regex.Matcher;
 import java.util.regex.Pattern;
 import javax.tools.JavaCompiler;
+import javax.tools.JavaFileObject;
 import javax.tools.SimpleJavaFileObject;
 import javax.tools.ToolProvider;
 
 /** What README.md says is so when it is tried. */
 public final class ReadmeTests {
     private static final Pattern EXAMPLE = Pattern.compile("(?ms)^```java\n(.*?)^```$");
-    private static final Pattern ANSWER = Pattern.compile("(int \\w+ = )?(m\\..*);\\s*// (-?\\d+)\\b.*");
+    private static final Pattern ANSWER =
+        Pattern.compile("(int \\w+ = )?(m\\..*);\\s*// (-?\\d+)\\b.*");
     private static final Pattern REFUSAL = Pattern.compile("(m\\..*);\\s*// throws (\\w+):.*");
 
     private ReadmeTests() {
@@ -117,7 +119,7 @@ public final class ReadmeTests {
             throw new AssertionError("there is no compiler");
         }
         URI uri = URI.create("string:///" + name + ".java");
-        SimpleJavaFileObject file = new SimpleJavaFileObject(uri, SimpleJavaFileObject.Kind.SOURCE) {
+        SimpleJavaFileObject file = new SimpleJavaFileObject(uri, JavaFileObject.Kind.SOURCE) {
             @Override
             public CharSequence getCharContent(boolean ignoreEncodingErrors) {
                 return source;
